@@ -83,13 +83,10 @@ public final class DriverBook {
         if (!book.hasField(field) || ticks < 1 || ticks > MOST_PERIOD) {
             return NONE;
         }
-        Field pulse = book.fields[field];
-        if (pulse.kind != Field.PULSE) {
+        if (book.fields[field].kind != Field.PULSE) {
             return KIND;
         }
-        int had = pulse.period;
-        pulse.period = ticks;
-        book.age++;
+        int had = book.changePeriod(field, ticks);
         chip.powerUp();
         return had;
     }
@@ -98,16 +95,13 @@ public final class DriverBook {
         if (!book.hasField(field) || (other != -1 && !book.hasField(other))) {
             return NONE;
         }
-        Field pulse = book.fields[field];
-        if (pulse.kind != Field.PULSE) {
+        if (book.fields[field].kind != Field.PULSE) {
             return KIND;
         }
         if (other != -1 && book.fields[other].kind != Field.STATUS && book.fields[other].kind != Field.FLAG) {
             return KIND;
         }
-        int had = pulse.done;
-        pulse.done = other;
-        book.age++;
+        int had = book.changeDone(field, other);
         chip.powerUp();
         return had;
     }
@@ -131,10 +125,7 @@ public final class DriverBook {
         if (book.actCount >= MOST_ACTS) {
             return FULL;
         }
-        int number = book.actCount;
-        book.acts[number].stepCount = 0;
-        book.actCount = number + 1;
-        return number;
+        return book.tellAct();
     }
 
     public int step(int act, int kind, int field, int v, int limit) {
@@ -153,42 +144,34 @@ public final class DriverBook {
         if (kind != Act.PAUSE && !allowsStep(book.fields[field].kind, kind)) {
             return KIND;
         }
-        Act grown = book.acts[act];
-        if (grown.stepCount >= MOST_STEPS) {
+        if (book.acts[act].stepCount >= MOST_STEPS) {
             return FULL;
         }
-        return grown.append(kind, field, v, limit);
+        return book.tellStep(act, kind, field, v, limit);
     }
 
     public int bare(int act) {
         if (!book.hasAct(act)) {
             return NONE;
         }
-        int had = book.acts[act].stepCount;
-        book.acts[act].stepCount = 0;
-        return had;
+        return book.dropSteps(act);
     }
 
     public int handler(int field, int act) {
         if (!book.hasField(field) || (act != -1 && !book.hasAct(act))) {
             return NONE;
         }
-        Field flag = book.fields[field];
-        if (flag.kind != Field.FLAG) {
+        if (book.fields[field].kind != Field.FLAG) {
             return KIND;
         }
-        int had = flag.handler;
-        flag.handler = act;
-        return had;
+        return book.changeHandler(field, act);
     }
 
     public int locks(int on) {
         if (on != 0 && on != 1) {
             return NONE;
         }
-        int had = book.locks;
-        book.locks = on;
-        return had;
+        return book.changeLocks(on);
     }
 
     public int code(int act) {
@@ -585,6 +568,8 @@ public final class DriverBook {
         int locks = 1;
         /** Grows with each change that makes older images useless. */
         int age = 0;
+        /** Whether the acts' code is that of the book as it stands now. */
+        private boolean codeIsMade = false;
 
         Book() {
             for (int i = 0; i < MOST_FIELDS; i++) {
@@ -605,6 +590,7 @@ public final class DriverBook {
             actCount = 0;
             locks = 1;
             age++;
+            codeIsMade = false;
         }
 
         boolean hasRegister(int register) {
@@ -641,6 +627,7 @@ public final class DriverBook {
             told.done = -1;
             told.handler = -1;
             age++;
+            codeIsMade = false;
             fieldCount++;
             return fieldCount - 1;
         }
@@ -651,8 +638,56 @@ public final class DriverBook {
             told.f = f;
             told.g = g;
             told.v = v;
+            codeIsMade = false;
             lawCount++;
             return lawCount - 1;
+        }
+
+        int changePeriod(int field, int ticks) {
+            int had = fields[field].period;
+            fields[field].period = ticks;
+            age++;
+            return had;
+        }
+
+        int changeDone(int field, int other) {
+            int had = fields[field].done;
+            fields[field].done = other;
+            age++;
+            return had;
+        }
+
+        int changeHandler(int field, int act) {
+            int had = fields[field].handler;
+            fields[field].handler = act;
+            codeIsMade = false;
+            return had;
+        }
+
+        int changeLocks(int on) {
+            int had = locks;
+            locks = on;
+            codeIsMade = false;
+            return had;
+        }
+
+        int tellAct() {
+            acts[actCount].stepCount = 0;
+            codeIsMade = false;
+            actCount++;
+            return actCount - 1;
+        }
+
+        int tellStep(int act, int kind, int field, int v, int limit) {
+            codeIsMade = false;
+            return acts[act].append(kind, field, v, limit);
+        }
+
+        int dropSteps(int act) {
+            int had = acts[act].stepCount;
+            acts[act].stepCount = 0;
+            codeIsMade = false;
+            return had;
         }
 
         int bitsOfAll(int register) {
@@ -695,11 +730,15 @@ public final class DriverBook {
             return false;
         }
 
-        /** Code hangs on fields, laws, handlers and locks, so it is made anew for each call that looks at it. */
+        /** Code hangs on fields, laws, handlers and locks, so each change of these makes all of it anew. */
         void makeCode() {
+            if (codeIsMade) {
+                return;
+            }
             for (int i = 0; i < actCount; i++) {
                 acts[i].code.makeFrom(acts[i], this);
             }
+            codeIsMade = true;
         }
     }
 
@@ -941,16 +980,27 @@ public final class DriverBook {
     private static final class Chip {
         private final Book book;
         private final State state;
+        /** The fields of each register by number; all that loops over them would else look at every field. */
+        private final int[][] fieldsIn = new int[MOST_REGISTERS][REGISTER_BITS];
+        private final int[] fieldsInCount = new int[MOST_REGISTERS];
+        final int[] keptBits = new int[MOST_REGISTERS];
+        private final int[] pulses = new int[MOST_FIELDS];
+        private int pulseCount = 0;
 
         Chip(Book book, State state) {
             this.book = book;
             this.state = state;
         }
 
+        /** What changes the fields powers up too, so this is the place to sort them. */
         void powerUp() {
             state.blank();
+            Arrays.fill(fieldsInCount, 0);
+            Arrays.fill(keptBits, 0);
+            pulseCount = 0;
             for (int i = 0; i < book.fieldCount; i++) {
                 Field field = book.fields[i];
+                sortIn(i, field);
                 state.value[i] = field.reset;
                 state.pending[i] = field.reset;
                 if (field.isKept()) {
@@ -959,9 +1009,26 @@ public final class DriverBook {
             }
         }
 
+        private void sortIn(int i, Field field) {
+            int r = field.register;
+            // fields share no bit, so a register has no more of them than bits
+            if (fieldsInCount[r] < REGISTER_BITS) {
+                fieldsIn[r][fieldsInCount[r]] = i;
+                fieldsInCount[r]++;
+            }
+            if (field.isKept()) {
+                keptBits[r] |= field.mask;
+            }
+            if (field.kind == Field.PULSE) {
+                pulses[pulseCount] = i;
+                pulseCount++;
+            }
+        }
+
         void tick() {
             state.now++;
-            for (int i = 0; i < book.fieldCount; i++) {
+            for (int k = 0; k < pulseCount; k++) {
+                int i = pulses[k];
                 if (state.timer[i] > 0) {
                     state.timer[i]--;
                     if (state.timer[i] == 0) {
@@ -1003,11 +1070,9 @@ public final class DriverBook {
         /** Only a driver saves the taken bits that its read takes away. */
         int readRegister(int register, boolean savesTaken) {
             int number = 0;
-            for (int i = 0; i < book.fieldCount; i++) {
+            for (int k = 0; k < fieldsInCount[register]; k++) {
+                int i = fieldsIn[register][k];
                 Field field = book.fields[i];
-                if (field.register != register) {
-                    continue;
-                }
                 number |= state.value[i] << field.low;
                 if (field.kind == Field.TAKEN) {
                     if (savesTaken) {
@@ -1024,13 +1089,12 @@ public final class DriverBook {
             int hits = hitsOf(register, number);
             // the laws look at hits of earlier writes, so this one's are noted behind them
             lookAtLaws(hits);
-            for (int i = 0; i < book.fieldCount; i++) {
+            for (int k = 0; k < fieldsInCount[register]; k++) {
+                int i = fieldsIn[register][k];
                 if (isIn(hits, i)) {
                     state.lastHit[i] = state.now;
                 }
-                if (book.fields[i].register == register) {
-                    writeField(i, book.fields[i].bitsIn(number));
-                }
+                writeField(i, book.fields[i].bitsIn(number));
             }
             tick();
         }
@@ -1038,9 +1102,9 @@ public final class DriverBook {
         /** The set of the fields that a write hits. */
         private int hitsOf(int register, int number) {
             int hits = 0;
-            for (int i = 0; i < book.fieldCount; i++) {
-                Field field = book.fields[i];
-                if (field.register == register && isHit(i, field.bitsIn(number))) {
+            for (int k = 0; k < fieldsInCount[register]; k++) {
+                int i = fieldsIn[register][k];
+                if (isHit(i, book.fields[i].bitsIn(number))) {
                     hits |= 1 << i;
                 }
             }
@@ -1212,7 +1276,7 @@ public final class DriverBook {
                     break;
                 case Code.WRITE:
                     int number = numberToWrite(code, course);
-                    state.shadow[where] = number & book.bitsOfKept(where);
+                    state.shadow[where] = number & chip.keptBits[where];
                     chip.writeRegister(where, number);
                     course.next();
                     break;
@@ -1280,6 +1344,9 @@ public final class DriverBook {
         private final State state;
         private final Driver driver;
         private final State start = new State();
+        /** What the act and the handler set each field to last, or -1. */
+        private final int[] byAct = new int[MOST_FIELDS];
+        private final int[] byHandler = new int[MOST_FIELDS];
         /** The rule that the last walk that told a tick found broken there, 0 if there was no such walk. */
         int rule = 0;
         int ruleField = NO_FIELD;
@@ -1313,51 +1380,58 @@ public final class DriverBook {
             }
             int ticks = state.now - start.now;
             int served = state.served;
+            noteSets(book.acts[act], book.acts[book.fields[flag].handler]);
             for (int t = 1; t <= ticks; t++) {
                 restoreStart();
                 state.tellEvent(flag, 1, start.now + t);
                 boolean ended = driver.runAct(act);
-                int unwell = wrongField(book.acts[act], book.acts[book.fields[flag].handler]);
-                int broken = brokenRule(ended, unwell, served);
+                int broken = brokenRule(ended, served);
                 if (broken != 0) {
                     rule = broken;
-                    ruleField = broken == RIGHT_VALUES ? unwell : NO_FIELD;
+                    ruleField = broken == RIGHT_VALUES ? wrongField() : NO_FIELD;
                     return t;
                 }
             }
             return 0;
         }
 
-        private int brokenRule(boolean ended, int unwell, int served) {
+        private void noteSets(Act act, Act handler) {
+            for (int i = 0; i < book.fieldCount; i++) {
+                byAct[i] = act.lastSet(i);
+                byHandler[i] = handler.lastSet(i);
+            }
+        }
+
+        private int brokenRule(boolean ended, int served) {
             if (!ended) {
                 return NO_TIMEOUT;
             }
             if (state.breakCount > start.breakCount) {
                 return NO_BREAKS;
             }
-            if (unwell != NO_FIELD) {
+            if (wrongField() != NO_FIELD) {
                 return RIGHT_VALUES;
             }
             return state.served == served + 1 ? 0 : SERVED_ONCE;
         }
 
-        private int wrongField(Act act, Act handler) {
+        private int wrongField() {
             for (int i = 0; i < book.fieldCount; i++) {
-                if (book.fields[i].isKept() && !isRight(i, act.lastSet(i), handler.lastSet(i))) {
+                if (book.fields[i].isKept() && !isRight(i)) {
                     return i;
                 }
             }
             return NO_FIELD;
         }
 
-        private boolean isRight(int i, int byAct, int byHandler) {
+        private boolean isRight(int i) {
             boolean plain = book.fields[i].kind == Field.PLAIN;
             int got = plain ? state.value[i] : state.pending[i];
-            if (byAct < 0 && byHandler < 0) {
+            if (byAct[i] < 0 && byHandler[i] < 0) {
                 return got == (plain ? start.value[i] : start.pending[i]);
             }
             // a number that isn't set is -1, which no field holds
-            return got == byAct || got == byHandler;
+            return got == byAct[i] || got == byHandler[i];
         }
     }
 
