@@ -17,6 +17,8 @@ public final class ActsTest {
         codeOfOthers();
         codeFollowsTheBook();
         longestCode();
+        codeOfFieldZero();
+        codeBehindBegin();
         opRefusals();
         same();
         due.end("ActsTest");
@@ -300,6 +302,37 @@ public final class ActsTest {
         due.op("the last WRITE", x, 0, 46, 1, 0, 1, 12, 3, -2);
         due.op("the last FREE", x, 0, 47, 6, -2, -2, -2, -2, -2);
         due.is("run", x.run(0), 24);
+    }
+
+    /** The first field and the first law count like all others. */
+    private static void codeOfFieldZero() {
+        for (int kind = 3; kind <= 5; kind += 2) {
+            DriverBook x = new DriverBook();
+            x.field(0, 0, 1, kind, 0);
+            x.field(0, 1, 1, Due.PLAIN, 0);
+            x.field(0, 2, 1, Due.PLAIN, 0);
+            x.act();
+            x.step(0, Due.SET, 1, 1, 0);
+            x.step(0, Due.SET, 2, 1, 0);
+            due.is("shadowed by field 0, kind " + kind, x.op(0, 0, 2), kind == Due.HELD ? 2 : 0);
+            x.law(0, 1, 2, 0);
+            due.is("bound by law 0", x.code(0), 2);
+            due.is("by shadow", x.op(0, 0, 2), 2);
+        }
+    }
+
+    private static void codeBehindBegin() {
+        DriverBook x = new DriverBook();
+        x.tape(0, 3, 1);
+        x.act();
+        x.step(0, Due.PAUSE, -1, 5, 0);
+        due.is("one instruction", x.code(0), 1);
+        x.begin(4);
+        due.is("no act", x.code(0), -1);
+        due.is("nothing runs", x.play(0, 0, 1), 0);
+        x.act();
+        due.is("a new act has no code", x.code(0), 0);
+        due.is("nor does it run", x.run(0), 0);
     }
 
     private static void opRefusals() {

@@ -21,6 +21,8 @@ public final class ChipTest {
         waits();
         peek();
         shadow();
+        shadowBehindPower();
+        doneOfFieldZero();
         lawsOfValues();
         lawsOfTime();
         hits();
@@ -59,6 +61,8 @@ public final class ChipTest {
         x.write(0, 9);
         x.write(1, 0x17);
         x.run(0);
+        x.write(1, 0x17);
+        due.is("timer ahead", x.peek(4, 2), 2);
         due.is("softs ahead", x.peek(1, 3), 3);
         due.is("result ahead", x.result(), 3);
         due.is("served ahead", x.count(5), 1);
@@ -418,6 +422,36 @@ public final class ChipTest {
         due.is("shadow(3)", x.shadow(3), 0);
         due.is("shadow(4)", x.shadow(4), -1);
         due.is("shadow(-1)", x.shadow(-1), -1);
+    }
+
+    private static void shadowBehindPower() {
+        DriverBook x = new DriverBook();
+        x.field(0, 0, 4, Due.PLAIN, 1);
+        x.act();
+        x.step(0, Due.SET, 0, 14, 0);
+        x.run(0);
+        due.is("written", x.shadow(0), 14);
+        x.power();
+        due.is("power", x.shadow(0), 1);
+        x.run(0);
+        x.begin(1);
+        due.is("begin", x.shadow(0), 0);
+        x.field(0, 0, 4, Due.FLAG, 15);
+        x.act();
+        x.step(0, Due.SET, 0, 6, 0);
+        x.run(0);
+        due.is("a flag isn't in it", x.shadow(0), 0);
+        due.is("the flag's bits", x.peek(0, 0), 9);
+    }
+
+    private static void doneOfFieldZero() {
+        DriverBook x = new DriverBook();
+        x.field(0, 0, 3, Due.STATUS, 0);
+        x.field(0, 3, 1, Due.PULSE, 0);
+        x.done(1, 0);
+        x.write(0, 8);
+        x.wait(2);
+        due.is("field 0 is done", x.peek(0, 0), 7);
     }
 
     private static void lawsOfValues() {

@@ -21,6 +21,7 @@ public final class HandlerTest {
         walkBreaks();
         walkValues();
         walkHeld();
+        walkOfFieldZero();
         walkServed();
         walkLeavesTheState();
         why();
@@ -361,6 +362,29 @@ public final class HandlerTest {
         due.is("why, the field", x.why(1), 2);
         x.power();
         due.is("but for power", x.walk(1, 0), 0);
+    }
+
+    private static void walkOfFieldZero() {
+        DriverBook x = new DriverBook();
+        x.field(0, 0, 2, Due.PLAIN, 2);
+        x.field(0, 2, 2, Due.PLAIN, 0);
+        x.field(1, 0, 1, Due.FLAG, 0);
+        x.act();
+        x.act();
+        x.handler(2, 0);
+        x.step(0, Due.SET, 2, 1, 0);
+        x.step(1, Due.PAUSE, -1, 1, 0);
+        x.step(1, Due.SET, 0, 0, 0);
+        due.is("set to 0", x.walk(1, 2), 0);
+        x.bare(1);
+        x.step(0, Due.SET, 0, 0, 0);
+        x.step(1, Due.PAUSE, -1, 1, 0);
+        due.is("set to 0 by the handler", x.walk(1, 2), 0);
+        x.step(1, Due.SET, 1, 1, 0);
+        x.locks(0);
+        due.is("written back", x.walk(1, 2), 2);
+        due.is("why", x.why(0), 3);
+        due.is("field 0", x.why(1), 0);
     }
 
     private static void walkServed() {

@@ -183,6 +183,10 @@ public final class TapesTest {
         due.is("the host's", x.count(8), 6);
         x.field(0, 0, 1, Due.PLAIN, 0);
         x.law(0, 0, 0, 0);
+        x.write(0, 1);
+        x.image(5);
+        due.is("one break", x.toss(5), 1);
+        x.power();
         x.law(1, 0, 0, 1);
         x.write(0, 1);
         x.image(5);
