@@ -22,6 +22,7 @@ public final class DriverBook {
     private static final int MOST_IN_A_ROW = 8;
     private static final int TAPES = 6;
     private static final int MOST_PLACES = 64;
+    private static final long MOST_INT = 2147483647L;
 
     private final Book book;
     private final State state;
@@ -229,8 +230,8 @@ public final class DriverBook {
             return NONE;
         }
         book.makeCode();
-        int before = state.now;
-        return driver.runAct(act) ? state.now - before : TIMEOUT;
+        long before = state.now;
+        return driver.runAct(act) ? nearestInt(state.now - before) : TIMEOUT;
     }
 
     public int read(int register) {
@@ -242,7 +243,7 @@ public final class DriverBook {
             return NONE;
         }
         chip.writeRegister(register, number);
-        return state.now;
+        return nearestInt(state.now);
     }
 
     public int wait(int n) {
@@ -252,7 +253,7 @@ public final class DriverBook {
         for (int k = 0; k < n; k++) {
             chip.tick();
         }
-        return state.now;
+        return nearestInt(state.now);
     }
 
     public int peek(int field, int what) {
@@ -283,11 +284,11 @@ public final class DriverBook {
     public int breaks(int what) {
         switch (what) {
             case 0:
-                return state.breakCount;
+                return nearestInt(state.breakCount);
             case 1:
                 return state.breakCount > 0 ? state.firstLaw : NONE;
             case 2:
-                return state.breakCount > 0 ? state.firstNow : NONE;
+                return state.breakCount > 0 ? nearestInt(state.firstNow) : NONE;
             default:
                 return NONE;
         }
@@ -342,7 +343,7 @@ public final class DriverBook {
             return NONE;
         }
         tapes[d].takeImage(state, book.age);
-        return state.now;
+        return nearestInt(state.now);
     }
 
     public int back(int d) {
@@ -357,7 +358,7 @@ public final class DriverBook {
             return UNABLE;
         }
         state.takeFrom(tape.image);
-        return state.now;
+        return nearestInt(state.now);
     }
 
     public int toss(int d) {
@@ -371,7 +372,7 @@ public final class DriverBook {
         try {
             tape.throwFailure();
         } catch (IllegalStateException failure) {
-            return tape.image.breakCount;
+            return nearestInt(tape.image.breakCount);
         }
         return hostRefuses(THROWN);
     }
@@ -463,7 +464,7 @@ public final class DriverBook {
             case 3:
                 return book.actCount;
             case 4:
-                return state.now;
+                return nearestInt(state.now);
             case 5:
                 return state.served;
             case 6:
@@ -478,6 +479,11 @@ public final class DriverBook {
     }
 
     // ---- what the refusals ask ----
+
+    /** 512 calls can bring NOW and the BREAKS above what an int holds; a wrapped number would look like a refusal. */
+    private static int nearestInt(long number) {
+        return (int) Math.min(number, MOST_INT);
+    }
 
     private static boolean fits(int number, int width) {
         return number >= 0 && number < (1 << width);
@@ -899,24 +905,25 @@ public final class DriverBook {
 
     /** The state of chip and driver: what POWER sets, and what an image holds. */
     private static final class State {
-        static final int NEVER = -1;
+        static final long NEVER = -1L;
 
         final int[] value = new int[MOST_FIELDS];
         final int[] pending = new int[MOST_FIELDS];
         final int[] timer = new int[MOST_FIELDS];
         final int[] soft = new int[MOST_FIELDS];
-        final int[] lastHit = new int[MOST_FIELDS];
+        final long[] lastHit = new long[MOST_FIELDS];
         final int[] shadow = new int[MOST_REGISTERS];
         final int[] eventField = new int[MOST_EVENTS];
         final int[] eventValue = new int[MOST_EVENTS];
-        final int[] eventTick = new int[MOST_EVENTS];
+        final long[] eventTick = new long[MOST_EVENTS];
         int eventCount = 0;
-        int now = 0;
+        /** Long, like the breaks: plays of long handlers pass more ticks than an int counts. */
+        long now = 0L;
         int result = 0;
         int served = 0;
-        int breakCount = 0;
+        long breakCount = 0L;
         int firstLaw = -1;
-        int firstNow = -1;
+        long firstNow = -1L;
 
         State() {
             Arrays.fill(lastHit, NEVER);
@@ -930,12 +937,12 @@ public final class DriverBook {
             Arrays.fill(lastHit, NEVER);
             Arrays.fill(shadow, 0);
             eventCount = 0;
-            now = 0;
+            now = 0L;
             result = 0;
             served = 0;
-            breakCount = 0;
+            breakCount = 0L;
             firstLaw = -1;
-            firstNow = -1;
+            firstNow = -1L;
         }
 
         void takeFrom(State other) {
@@ -957,7 +964,7 @@ public final class DriverBook {
             firstNow = other.firstNow;
         }
 
-        void tellEvent(int field, int v, int tick) {
+        void tellEvent(int field, int v, long tick) {
             if (eventCount >= MOST_EVENTS) {
                 return;
             }
@@ -1378,7 +1385,7 @@ public final class DriverBook {
             if (start.eventCount >= MOST_EVENTS) {
                 return FULL;
             }
-            int ticks = state.now - start.now;
+            int ticks = nearestInt(state.now - start.now);
             int served = state.served;
             noteSets(book.acts[act], book.acts[book.fields[flag].handler]);
             for (int t = 1; t <= ticks; t++) {
