@@ -14,6 +14,15 @@ final class Due {
         }
     }
 
+    /** A call as it is written. */
+    static String call(String name, long... numbers) {
+        StringBuilder text = new StringBuilder(name).append('(');
+        for (int k = 0; k < numbers.length; k++) {
+            text.append(k == 0 ? "" : ", ").append(numbers[k]);
+        }
+        return text.append(')').toString();
+    }
+
     /** 0: at() answers, 1: IllegalArgumentException, 2: IllegalStateException. */
     void atThrows(String what, DriverBook x, int d, int i, int want) {
         int got = 0;
