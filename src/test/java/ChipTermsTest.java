@@ -5,9 +5,11 @@ public final class ChipTermsTest {
     private static final Twins twins = new Twins(due);
 
     public static void main(String[] args) {
+        aNewObject();
         registersUpToR();
         registersHaveSixteenBits();
         fieldsAreNumberedAsTold();
+        beginForgetsFields();
         widthsBoundValues();
         pulsesAtFirst();
         nowAtFirst();
@@ -32,6 +34,31 @@ public final class ChipTermsTest {
         writeOfLoad();
         loadByPendingOfThen();
         due.end("ChipTermsTest");
+    }
+
+    /** Promise 1: "As told in I to V": nothing is told yet, and begin(4) or a POWER brings nothing else. */
+    private static void aNewObject() {
+        twins.leaves("begin(4) on a new object", DriverBook::new, 4, x -> x.begin(4));
+        twins.leaves("power() on a new object", DriverBook::new, 0, DriverBook::power);
+        DriverBook x = new DriverBook();
+        int[] counts = {4, 0, 0, 0, 0, 0, 0, 1, 0};
+        for (int what = 0; what < 9; what++) {
+            due.is("count " + what, x.count(what), counts[what]);
+        }
+        due.is("RESULT", x.result(), 0);
+        due.is("BREAKS", x.breaks(0), 0);
+        due.is("no first BREAK", x.breaks(1), NONE);
+        due.is("no WALK", x.why(0), NONE);
+        twins.leaves("begin(4) behind all sorts of calls", () -> {
+            DriverBook y = Scenes.full();
+            y.run(0);
+            y.walk(0, 1);
+            y.begin(4);
+            for (int d = 0; d < 6; d++) {
+                y.clear(d);
+            }
+            return y;
+        }, 4, y -> y.begin(4));
     }
 
     /** "REGISTERS 0 .. R - 1 (R 1 .. 8; 4 at first)". */
@@ -80,6 +107,26 @@ public final class ChipTermsTest {
             due.is("its value", x.peek(i, 0), i % 2);
         }
         due.is("no 24", x.peek(24, 0), NONE);
+    }
+
+    /** Promise 2: "No FIELDS": what a bit was ahead of begin() is nothing behind it. */
+    private static void beginForgetsFields() {
+        DriverBook x = new DriverBook();
+        x.field(0, 0, 8, Due.PLAIN, 255);
+        x.field(0, 8, 8, Due.HELD, 255);
+        x.field(1, 0, 1, Due.PULSE, 0);
+        x.begin(1);
+        due.is("its SHADOW", x.shadow(0), 0);
+        due.is("its READ", x.read(0), 0);
+        x.field(0, 0, 8, Due.FLAG, 255);
+        x.field(0, 8, 8, Due.STATUS, 255);
+        x.act();
+        x.step(0, Due.SET, 0, 255, 0);
+        due.is("a WRITE", x.run(0), 1);
+        due.is("its SHADOW has no bits of FLAG and STATUS", x.shadow(0), 0);
+        due.is("the FLAG", x.peek(0, 0), 0);
+        due.is("the STATUS", x.peek(1, 0), 255);
+        due.is("no third FIELD", x.peek(2, 0), NONE);
     }
 
     /** "a width (1 .. 8)", "a value (a number of its width)". */

@@ -32,6 +32,10 @@ public final class CodeTermsTest {
         getIsAReadAndAPick();
         pauseIsAPause();
         partsThatAreNone();
+        theLongestCode();
+        theFirstFieldShadows();
+        noCodeBehindBegin();
+        theSameCode();
         due.end("CodeTermsTest");
     }
 
@@ -413,5 +417,102 @@ public final class CodeTermsTest {
             due.is("no what -1", x.op(0, i, -1), -1);
             due.is("no what 6", x.op(0, i, 6), -1);
         }
+    }
+
+    /** Twelve STEPS make 48 INSTRUCTIONS at the most: twelve GROUPS of LOCK, READ, WRITE, FREE. */
+    private static void theLongestCode() {
+        DriverBook x = plains(2, 0, 0, 0, 0, 0, 0, 0, 0, 0, 0, 0, 0);
+        x.field(2, 0, 1, Due.FLAG, 0);
+        x.handler(3, 0);
+        due.is("48", x.code(0), 48);
+        for (int k = 0; k < 48; k += 4) {
+            due.op("LOCK", x, 0, k, LOCK, -2, -2, -2, -2, -2);
+            due.op("READ", x, 0, k + 1, READ, 0, -2, -2, -2, -2);
+            due.op("WRITE", x, 0, k + 2, WRITE, 0, BY_ACC, 2, 1, -2);
+            due.op("FREE", x, 0, k + 3, FREE, -2, -2, -2, -2, -2);
+        }
+        due.is("no 49th", x.op(0, 48, 0), -1);
+        due.is("it RUNS", x.run(0), 24);
+    }
+
+    /** FIELD 0 makes its REGISTER SHADOWED like any other. */
+    private static void theFirstFieldShadows() {
+        for (int kind : new int[] {Due.TAKEN, Due.HELD}) {
+            DriverBook x = new DriverBook();
+            x.field(0, 15, 1, kind, 0);
+            x.field(0, 0, 1, Due.PLAIN, 0);
+            x.field(0, 1, 1, Due.PLAIN, 0);
+            x.act();
+            x.step(0, Due.SET, 1, 1, 0);
+            due.op("by SHADOW", x, 0, 0, WRITE, 0, BY_SHADOW, kind == Due.HELD ? 0x8002 : 2, 1, -2);
+        }
+    }
+
+    /** Promise 2: "No FIELDS, LAWS, ACTS, HANDLERS": a new ACT has no STEPS, whatever the one of its number had. */
+    private static void noCodeBehindBegin() {
+        DriverBook x = plains(3, 0);
+        x.field(2, 0, 1, Due.FLAG, 1);
+        x.law(0, 0, 1, 0);
+        x.handler(4, 0);
+        due.is("LOCK, READ, WRITE, FREE", x.code(0), 4);
+        x.begin(4);
+        due.is("no ACT", x.code(0), -1);
+        due.is("no FIELD", x.peek(0, 0), -1);
+        due.is("a new one", x.act(), 0);
+        due.is("without CODE", x.code(0), 0);
+        due.is("without STEPS", x.bare(0), 0);
+        for (int i = 0; i < 5; i++) {
+            x.field(0, i, 1, i == 4 ? Due.FLAG : Due.PLAIN, 0);
+        }
+        x.step(0, Due.SET, 0, 1, 0);
+        x.step(0, Due.SET, 1, 1, 0);
+        due.is("no HANDLER, no LAW: READ and WRITE", x.code(0), 2);
+        due.is("the FLAG's HANDLER", x.handler(4, -1), -1);
+    }
+
+    /** Promise 14: "Whether two ACTS have the same CODE": told anew behind each change, every part of it. */
+    private static void theSameCode() {
+        int[][] steps = {{Due.SET, 0, 1, 0}, {Due.SET, 0, 0, 0}, {Due.SET, 1, 1, 0}, {Due.AWAIT, 0, 1, 3},
+            {Due.AWAIT, 0, 1, 4}, {Due.AWAIT, 0, 0, 3}, {Due.AWAIT, 1, 1, 3}, {Due.GET, 0, 0, 0}, {Due.GET, 1, 0, 0},
+            {Due.PAUSE, -1, 1, 0}, {Due.PAUSE, -1, 9, 0}, {Due.SET, 3, 1, 0}, {Due.AWAIT, 3, 1, 3}};
+        for (int i = 0; i < steps.length; i++) {
+            for (int j = 0; j < steps.length; j++) {
+                DriverBook x = plains(3);
+                x.act();
+                due.is("none and none", x.same(0, 1), 1);
+                x.step(0, steps[i][0], steps[i][1], steps[i][2], steps[i][3]);
+                due.is("one and none", x.same(0, 1), 0);
+                due.is("none and one", x.same(1, 0), 0);
+                x.step(1, steps[j][0], steps[j][1], steps[j][2], steps[j][3]);
+                due.is(i + " and " + j, x.same(0, 1), i == j ? 1 : 0);
+                x.step(0, Due.PAUSE, -1, 3, 0);
+                x.step(1, Due.PAUSE, -1, 3, 0);
+                due.is(i + " and " + j + ", and a PAUSE", x.same(0, 1), i == j ? 1 : 0);
+                x.step(1, Due.PAUSE, -1, 3, 0);
+                due.is("one is longer", x.same(0, 1), 0);
+            }
+        }
+        DriverBook x = plains(3, 0, 1);
+        x.act();
+        x.step(1, Due.SET, 1, 1, 0);
+        x.step(1, Due.SET, 0, 1, 0);
+        due.is("other STEPS, the same CODE", x.same(0, 1), 1);
+        x.law(0, 0, 1, 0);
+        due.is("a LAW parts them", x.same(0, 1), 0);
+        DriverBook y = new DriverBook();
+        y.field(1, 0, 1, Due.PLAIN, 0);
+        y.act();
+        y.act();
+        y.step(0, Due.PAUSE, -1, 1, 0);
+        y.step(0, Due.GET, 0, 0, 0);
+        y.step(1, Due.PAUSE, -1, 1, 0);
+        y.step(1, Due.PAUSE, -1, 2, 0);
+        due.is("GET and PAUSE", y.same(0, 1), 0);
+        y.bare(0);
+        y.bare(1);
+        due.is("none and none, behind bare()", y.same(0, 1), 1);
+        y.step(0, Due.PAUSE, -1, 1, 0);
+        y.step(1, Due.PAUSE, -1, 1, 0);
+        due.is("nothing of what was there counts", y.same(0, 1), 1);
     }
 }

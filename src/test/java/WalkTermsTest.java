@@ -23,6 +23,7 @@ public final class WalkTermsTest {
         pendingOfHeld();
         otherKindsAreNotLookedAt();
         theFirstFieldByNumber();
+        fieldZeroToo();
         servedOneMore();
         servedOneMoreThanBehindTheFirstRun();
         theFirstOfTheFour();
@@ -321,6 +322,26 @@ public final class WalkTermsTest {
         walk("1 ahead of both", x, 1, 3, 1);
         x.step(0, Due.SET, 4, 0, 0);
         walk("1 still", x, 1, 3, 1);
+    }
+
+    /** FIELD 0 is looked at like any other. */
+    private static void fieldZeroToo() {
+        for (int kind : new int[] {Due.PLAIN, Due.HELD}) {
+            DriverBook x = new DriverBook();
+            x.field(0, 0, 4, kind, 5);
+            x.field(1, 0, 1, Due.FLAG, 0);
+            x.field(2, 0, 1, Due.STATUS, 0);
+            x.act();
+            x.act();
+            x.step(0, Due.SET, 1, 1, 0);
+            x.step(0, Due.AWAIT, 2, 1, 0);
+            x.step(0, Due.SET, 0, 6, 0);
+            x.handler(1, 0);
+            x.step(1, Due.PAUSE, -1, 1, 0);
+            due.is("one that its TIMEOUT never comes to", x.walk(1, 1), 1);
+            due.is("why(0)", x.why(0), 3);
+            due.is("why(1)", x.why(1), 0);
+        }
     }
 
     /** "(4) SERVED is one more": neither none nor two. */
