@@ -2,22 +2,30 @@ import java.util.ArrayList;
 import java.util.List;
 import java.util.Random;
 
-/** Random runs of calls, held against the model: each answer, and after each call all that can be seen. */
+/**
+ * Random runs of calls, held against the model: each answer, a look behind each call, and at a run's end all that can be
+ * seen. What an object answers behind its 512th call is free, so a run has no more of them.
+ */
 public final class RandomTest {
     private static final int[] EDGES = {-2, -1, 0, 1, 2, 3, 255, 256, 65535, 65536, Integer.MAX_VALUE, Integer.MIN_VALUE};
+
+    private static final int MOST_CALLS = 512;
+    /** The last look takes some 160 calls, a call and a glance at the most 20. */
+    private static final int CALLS_AHEAD_OF_THE_LAST_LOOK = 290;
 
     private final Random random;
     private final DriverBook x = new DriverBook();
     private final Model m = new Model();
     private final List<String> told = new ArrayList<>();
     private final int[] answers = new int[40];
+    private int calls = 0;
 
     private RandomTest(long seed) {
         random = new Random(seed);
     }
 
     public static void main(String[] args) {
-        int runs = 3000;
+        int runs = 9000;
         long wrong = 0;
         int[] walks = new int[5];
         for (long seed = 1; seed <= runs; seed++) {
@@ -44,14 +52,19 @@ public final class RandomTest {
         if (random.nextInt(8) != 0 && !setUp()) {
             return false;
         }
-        for (int k = 0; k < 150; k++) {
+        while (calls < CALLS_AHEAD_OF_THE_LAST_LOOK) {
             int which = random.nextInt(100);
             String before = m.whole();
-            if (!call(which, wild && random.nextInt(4) == 0) || !seen() || !refusalsChangeNothing(before)) {
+            if (!call(which, wild && random.nextInt(4) == 0) || !refusalsChangeNothing(before) || !glance()) {
                 return false;
             }
         }
-        return true;
+        boolean well = seen();
+        if (calls > MOST_CALLS) {
+            told.add("    " + calls + " calls are too many");
+            return false;
+        }
+        return well;
     }
 
     /** Of the model too: only a TIMEOUT of run() and a PLACE of play() leave what was done. */
@@ -75,8 +88,9 @@ public final class RandomTest {
 
     /** A chip with fields of all kinds, two or three acts and handlers. */
     private boolean setUp() {
-        boolean well = same("begin", x.begin(3), m.begin(3));
-        for (int r = 0; r < 3; r++) {
+        int registers = random.nextInt(4) == 0 ? 1 + random.nextInt(8) : 3;
+        boolean well = same("begin(" + registers + ")", x.begin(registers), m.begin(registers));
+        for (int r = 0; r < registers; r++) {
             int low = random.nextInt(3);
             while (low < 14 && well && random.nextInt(7) != 0) {
                 int width = 1 + random.nextInt(3);
@@ -116,6 +130,7 @@ public final class RandomTest {
     }
 
     private boolean same(String call, long got, long want) {
+        calls++;
         told.add(call + " " + got);
         if (got != want) {
             told.add("    due is " + want);
@@ -245,6 +260,7 @@ public final class RandomTest {
         int f = fieldOfKind(2, wild);
         int got = x.walk(a, f);
         if (got >= 0) {
+            calls++;
             answers[got == 0 ? 0 : x.why(0)]++;
         }
         return same("walk(" + a + ", " + f + ")", got, m.walk(a, f));
@@ -281,60 +297,93 @@ public final class RandomTest {
         return same("copy(" + d + ", " + i + ", " + e + ", " + j + ", " + n + ")", x.copy(d, i, e, j, n), m.copy(d, i, e, j, n));
     }
 
-    /** All that the calls which change nothing can show. */
+    /** A part of what the calls which change nothing can show. */
+    private boolean glance() {
+        int f = random.nextInt(m.fields.size() + 2) - 1;
+        switch (random.nextInt(8)) {
+            case 0:
+                return count(random.nextInt(9)) && count(random.nextInt(9)) && count(random.nextInt(11) - 1);
+            case 1:
+                return breaks(0) && breaks(1) && breaks(2) && breaks(random.nextInt(5) - 1);
+            case 2:
+                return why(0) && why(1) && why(random.nextInt(4) - 1) && sees("result()", x.result(), m.result());
+            case 3:
+                return shadow(random.nextInt(m.registers)) && shadow(random.nextInt(10) - 1);
+            case 4:
+                return seenCode(random.nextInt(8) - 1, random.nextInt(6));
+            case 5:
+                return seenTape(random.nextInt(8) - 1);
+            default:
+                return peek(f, 0) && peek(f, 1) && peek(f, 2) && peek(f, 3) && peek(f, random.nextInt(6) - 1);
+        }
+    }
+
     private boolean seen() {
+        boolean well = sees("result()", x.result(), m.result());
         for (int what = -1; what <= 9; what++) {
-            if (x.count(what) != m.count(what)) {
-                return same("count(" + what + ")", x.count(what), m.count(what));
-            }
+            well = well && count(what);
         }
         for (int what = -1; what <= 3; what++) {
-            if (x.breaks(what) != m.breaks(what) || x.why(what) != m.why(what)) {
-                return same("breaks(" + what + ")", x.breaks(what), m.breaks(what))
-                        && same("why(" + what + ")", x.why(what), m.why(what));
-            }
-        }
-        if (x.result() != m.result()) {
-            return same("result()", x.result(), m.result());
+            well = well && breaks(what) && why(what);
         }
         for (int r = -1; r <= 8; r++) {
-            if (x.shadow(r) != m.shadow(r)) {
-                return same("shadow(" + r + ")", x.shadow(r), m.shadow(r));
+            well = well && shadow(r);
+        }
+        for (int f = 0; f < m.fields.size(); f++) {
+            for (int what = 0; what < 4; what++) {
+                well = well && peek(f, what);
             }
         }
-        return seenFields() && seenCode() && seenTapes();
+        for (int d = 0; d < 6; d++) {
+            well = well && seenTape(d);
+        }
+        return well;
     }
 
-    private boolean seenFields() {
-        for (int f = -1; f <= m.fields.size(); f++) {
-            for (int what = -1; what <= 4; what++) {
-                if (x.peek(f, what) != m.peek(f, what)) {
-                    return same("peek(" + f + ", " + what + ")", x.peek(f, what), m.peek(f, what));
-                }
-            }
+    private boolean sees(String call, long got, long want) {
+        calls++;
+        if (got == want) {
+            return true;
         }
-        return true;
+        told.add(call + " " + got);
+        told.add("    due is " + want);
+        return false;
     }
 
-    private boolean seenCode() {
-        int a = random.nextInt(7) - (random.nextInt(9) == 0 ? 1 : 0);
-        int b = random.nextInt(6);
-        if (x.code(a) != m.code(a) || x.same(a, b) != m.same(a, b)) {
-            return same("code(" + a + ")", x.code(a), m.code(a)) && same("same(" + a + ", " + b + ")", x.same(a, b), m.same(a, b));
-        }
-        for (int i = -1; i <= m.code(a); i++) {
-            for (int what = -1; what <= 6; what++) {
-                if (x.op(a, i, what) != m.op(a, i, what)) {
-                    return same("op(" + a + ", " + i + ", " + what + ")", x.op(a, i, what), m.op(a, i, what));
-                }
-            }
-        }
-        return true;
+    private boolean count(int what) {
+        return sees("count(" + what + ")", x.count(what), m.count(what));
     }
 
-    private boolean seenTapes() {
-        int d = random.nextInt(6);
-        for (int i = -1; i <= 9; i++) {
+    private boolean breaks(int what) {
+        return sees("breaks(" + what + ")", x.breaks(what), m.breaks(what));
+    }
+
+    private boolean why(int what) {
+        return sees("why(" + what + ")", x.why(what), m.why(what));
+    }
+
+    private boolean shadow(int r) {
+        return sees("shadow(" + r + ")", x.shadow(r), m.shadow(r));
+    }
+
+    private boolean peek(int f, int what) {
+        return sees("peek(" + f + ", " + what + ")", x.peek(f, what), m.peek(f, what));
+    }
+
+    private boolean seenCode(int a, int b) {
+        boolean well = sees("code(" + a + ")", x.code(a), m.code(a))
+                && sees("same(" + a + ", " + b + ")", x.same(a, b), m.same(a, b));
+        int i = random.nextInt(Math.max(0, m.code(a)) + 2) - 1;
+        for (int what = -1; what <= 6; what++) {
+            well = well && sees("op(" + a + ", " + i + ", " + what + ")", x.op(a, i, what), m.op(a, i, what));
+        }
+        return well;
+    }
+
+    private boolean seenTape(int d) {
+        for (int k = 0; k < 3; k++) {
+            int i = random.nextInt(11) - 1;
+            calls++;
             String got = at(d, i, true);
             String want = at(d, i, false);
             if (!got.equals(want)) {
@@ -342,7 +391,7 @@ public final class RandomTest {
                 return false;
             }
         }
-        return at(-1, 0, true).equals("argument") && at(6, 0, true).equals("argument");
+        return true;
     }
 
     private String at(int d, int i, boolean book) {
