@@ -35,6 +35,7 @@ public final class CodeTermsTest {
         theLongestCode();
         theFirstFieldShadows();
         noCodeBehindBegin();
+        noCodeOfSixActsBehindBegin();
         theSameCode();
         due.end("CodeTermsTest");
     }
@@ -468,6 +469,23 @@ public final class CodeTermsTest {
         x.step(0, Due.SET, 1, 1, 0);
         due.is("no HANDLER, no LAW: READ and WRITE", x.code(0), 2);
         due.is("the FLAG's HANDLER", x.handler(4, -1), -1);
+    }
+
+    /** The same for each number of an ACT, and with CODE that was looked at between. */
+    private static void noCodeOfSixActsBehindBegin() {
+        DriverBook x = new DriverBook();
+        for (int a = 0; a < 6; a++) {
+            x.act();
+            x.step(a, Due.PAUSE, -1, 9, 0);
+            due.is("one INSTRUCTION", x.code(a), 1);
+        }
+        x.begin(4);
+        for (int a = 0; a < 6; a++) {
+            due.is("a new ACT", x.act(), a);
+            due.is("its CODE", x.code(a), 0);
+            due.is("it RUNS", x.run(a), 0);
+            due.is("it has the CODE of the first", x.same(a, 0), 1);
+        }
     }
 
     /** Promise 14: "Whether two ACTS have the same CODE": told anew behind each change, every part of it. */

@@ -21,6 +21,7 @@ public final class RefusedTapesTest {
         backNothing();
         backCast();
         backUnable();
+        backUnableBehindSeveral();
         backIsAbleBehindRefusedCalls();
         tossNone();
         tossNothing();
@@ -195,6 +196,29 @@ public final class RefusedTapesTest {
         due.is("the newer one", x.back(1), 0);
         x.period(5, 9);
         due.is("the PERIOD is as it was, yet", x.back(0), UNABLE);
+    }
+
+    /** Two or three of these calls, in any order, never make it able again. */
+    private static void backUnableBehindSeveral() {
+        Twins.Call[] calls = {x -> x.begin(4), x -> x.field(3, 0, 1, Due.PULSE, 0), x -> x.period(0, 5), x -> x.done(0, -1)};
+        for (int k = 0; k < 64; k++) {
+            DriverBook x = new DriverBook();
+            for (int d = 0; d < 4; d++) {
+                x.field(0, d, 1, Due.PULSE, 0);
+                x.image(d);
+            }
+            for (int n = 0; n < 3; n++) {
+                Twins.Call call = calls[(k >> (2 * n)) % 4];
+                if (x.count(1) == 0) {
+                    due.is("a FIELD behind begin()", x.field(0, 0, 1, Due.PULSE, 0), 0);
+                }
+                // a second field() would share the bit of the first one
+                due.is("not refused", call.on(x) == -2 ? x.field(3, 1 + n, 1, Due.PULSE, 0) >= 0 ? 1 : 0 : 1, 1);
+                for (int d = 0; d < 4; d++) {
+                    due.is("IMAGE " + d + " behind calls " + k + ", the first " + (n + 1), x.back(d), UNABLE);
+                }
+            }
+        }
     }
 
     /** ".. that wasn't refused": what is refused leaves it able; and so do all other calls. */

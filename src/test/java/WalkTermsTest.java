@@ -24,6 +24,7 @@ public final class WalkTermsTest {
         otherKindsAreNotLookedAt();
         theFirstFieldByNumber();
         fieldZeroToo();
+        theLastOfTwentyFourToo();
         servedOneMore();
         servedOneMoreThanBehindTheFirstRun();
         theFirstOfTheFour();
@@ -341,6 +342,30 @@ public final class WalkTermsTest {
             due.is("one that its TIMEOUT never comes to", x.walk(1, 1), 1);
             due.is("why(0)", x.why(0), 3);
             due.is("why(1)", x.why(1), 0);
+        }
+    }
+
+    /** FIELD 23 too, and nothing behind it: a WALK of 24 FIELDS, of which the last one is PLAIN or HELD. */
+    private static void theLastOfTwentyFourToo() {
+        for (int kind : new int[] {Due.PLAIN, Due.HELD}) {
+            DriverBook x = new DriverBook();
+            x.field(0, 0, 1, Due.FLAG, 0);
+            x.field(0, 1, 1, Due.STATUS, 0);
+            for (int f = 2; f < 24; f++) {
+                due.is("field", x.field(1 + (f - 2) / 8, f % 8, 1, kind, 1), f);
+            }
+            x.act();
+            x.act();
+            x.step(0, Due.SET, 0, 1, 0);
+            x.handler(0, 0);
+            x.step(1, Due.PAUSE, -1, 1, 0);
+            x.step(1, Due.SET, 2, 0, 0);
+            due.is("well", x.walk(1, 0), 0);
+            x.step(0, Due.AWAIT, 1, 1, 0);
+            x.step(0, Due.SET, 23, 0, 0);
+            walk("one that its TIMEOUT never comes to", x, 1, 3, 23);
+            x.bare(0);
+            walk("never cleared", x, 1, 4, -2);
         }
     }
 
