@@ -45,6 +45,33 @@ final class Scenes {
         return x;
     }
 
+    /** All that POWER says, of the rich scene's FIELDS 0 to 10. */
+    static void powered(Due due, String what, DriverBook x) {
+        int[] resets = {3, 0, 1, 7, 0, 0, 0, 0, 1, 2, 0};
+        for (int f = 0; f < resets.length; f++) {
+            due.is(what + ": a value", x.peek(f, 0), resets[f]);
+        }
+        due.is(what + ": PENDING", x.peek(3, 1), 7);
+        due.is(what + ": a TIMER", x.peek(5, 2), 0);
+        due.is(what + ": a TIMER", x.peek(10, 2), 0);
+        due.is(what + ": a SOFT", x.peek(2, 3), 0);
+        int[] shadows = {3, 7, 0, 0x21, 0};
+        for (int r = 0; r < 5; r++) {
+            due.is(what + ": a SHADOW", x.shadow(r), shadows[r]);
+        }
+        due.is(what + ": RESULT", x.result(), 0);
+        due.is(what + ": NOW", x.count(4), 0);
+        due.is(what + ": SERVED", x.count(5), 0);
+        due.is(what + ": EVENTS", x.count(6), 0);
+        due.is(what + ": BREAKS", x.breaks(0), 0);
+        due.is(what + ": the first one's LAW", x.breaks(1), DriverBook.NONE);
+        due.is(what + ": the first one's NOW", x.breaks(2), DriverBook.NONE);
+        x.write(3, 0x24);
+        due.is(what + ": no HITS, so LAW 1 isn't broken", x.breaks(0), 0);
+        x.wait(50);
+        due.is(what + ": no EVENTS come", x.peek(6, 0) + x.peek(1, 0), 0);
+    }
+
     private static void richActs(DriverBook x) {
         for (int a = 0; a < 4; a++) {
             x.act();
