@@ -9,6 +9,7 @@ public final class BookPromisesTest {
         promise2Begin();
         promise3Field();
         promise3FieldRefused();
+        promise3FieldOverlap();
         promise4Period();
         promise5Done();
         promise6Law();
@@ -162,6 +163,20 @@ public final class BookPromisesTest {
         due.is("FULL", x.field(3, 0, 1, Due.PLAIN, 0), FULL);
         due.is("no POWER", x.count(4), 3);
         due.is("24", x.count(1), 24);
+    }
+
+    /** "No two FIELDS share a bit." */
+    private static void promise3FieldOverlap() {
+        for (int width = 1; width <= 8; width++) {
+            for (int low = 0; low + width <= 16; low++) {
+                DriverBook x = new DriverBook();
+                x.field(1, 5, 4, Due.PLAIN, 0);
+                boolean shares = low <= 8 && low + width > 5;
+                due.is(Due.call("field", 1, low, width, 0, 0), x.field(1, low, width, Due.PLAIN, 0), shares ? OVERLAP : 1);
+                due.is("FIELDS", x.count(1), shares ? 1 : 2);
+                due.is("in another REGISTER", x.field(2, low, width, Due.PLAIN, 0), shares ? 1 : 2);
+            }
+        }
     }
 
     /** "The PERIOD of a PULSE, POWER: the one it had. NONE: no such FIELD, not 1 .. 9; KIND: it is no PULSE." */

@@ -453,6 +453,12 @@ public final class ChipPromisesTest {
         due.is("none", x.breaks(2), NONE);
         x.write(0, 0x01);
         due.is("a first one again, at NOW 0", 10 * x.breaks(1) + x.breaks(2), 10);
+        x.power();
+        x.write(0, 0x50);
+        x.write(0, 0x51);
+        due.is("one alone", x.breaks(0), 1);
+        due.is("its LAW", x.breaks(1), 1);
+        due.is("its NOW", x.breaks(2), 1);
         twins.leaves("breaks", Scenes::rich, 2, y -> y.breaks(0));
     }
 

@@ -23,9 +23,10 @@ public final class FaceTest {
     private static final String[] CONSTANTS = {
         "NONE", "OVERLAP", "FULL", "KIND", "TIMEOUT", "LATE", "UNABLE", "NOTHING", "CAST", "PLACE", "SIZE", "THROWN",
     };
+    private static final int[] NUMBERS = {-1, -2, -3, -4, -5, -6, -7, -11, -12, -13, -14, -15};
     private static final Due due = new Due();
 
-    public static void main(String[] args) {
+    public static void main(String[] args) throws ReflectiveOperationException {
         Class<?> face = DriverBook.class;
         due.is("public and final", face.getModifiers(), Modifier.PUBLIC | Modifier.FINAL);
         methods(face);
@@ -63,9 +64,13 @@ public final class FaceTest {
         sameNames("other methods that bear a public one's name", closed, new TreeSet<>());
     }
 
-    private static void constants(Class<?> face) {
+    private static void constants(Class<?> face) throws ReflectiveOperationException {
         Set<String> open = new TreeSet<>();
+        for (int k = 0; k < CONSTANTS.length; k++) {
+            due.is(CONSTANTS[k], face.getField(CONSTANTS[k]).getInt(null), NUMBERS[k]);
+        }
         for (Field f : face.getDeclaredFields()) {
+            finalIfStatic(f);
             if (!Modifier.isPrivate(f.getModifiers())) {
                 due.is(f.getName() + " is a public constant", f.getModifiers(), Modifier.PUBLIC | Modifier.STATIC | Modifier.FINAL);
                 due.is(f.getName() + " is an int", f.getType() == int.class ? 1 : 0, 1);
@@ -89,10 +94,18 @@ public final class FaceTest {
             int own = 0;
             for (Field f : c.getDeclaredFields()) {
                 own += Modifier.isStatic(f.getModifiers()) ? 0 : 1;
-                due.is(c + "." + f.getName() + " static only if final", Modifier.isStatic(f.getModifiers()) && !Modifier.isFinal(f.getModifiers()) ? 1 : 0, 0);
+                finalIfStatic(f);
             }
             due.is(c + " has some twenty fields at the most", own <= 20 ? 1 : 0, 1);
         }
         due.is("some twelve classes at the most", face.getDeclaredClasses().length <= 12 ? 1 : 0, 1);
+    }
+
+    /** Static fields are final, and of a type whose constants LANGUAGE.md allows. */
+    private static void finalIfStatic(Field f) {
+        if (Modifier.isStatic(f.getModifiers())) {
+            due.is(f + " is final", Modifier.isFinal(f.getModifiers()) ? 1 : 0, 1);
+            due.is(f + " is a number", f.getType() == int.class || f.getType() == long.class ? 1 : 0, 1);
+        }
     }
 }
